@@ -1,0 +1,44 @@
+import java.util.Random;
+
+/** Promise 3. */
+final class LogarithmTest {
+    private static final long MOST = 1000000000000L;
+    private static final Check CHECK = new Check();
+    private static final HouseFunctions HOUSE = new HouseFunctions(1);
+
+    public static void main(String[] args) {
+        CHECK.due("logarithm(1000000)", HOUSE.logarithm(1000000), 0);
+        CHECK.due("logarithm(2000000)", HOUSE.logarithm(2000000), 693147180L);
+        CHECK.due("logarithm(500000)", HOUSE.logarithm(500000), -693147181L);
+        CHECK.due("logarithm(1)", HOUSE.logarithm(1), -13815510558L);
+        CHECK.due("logarithm(10^12)", HOUSE.logarithm(MOST), 13815510557L);
+        for (long v : new long[] {0, -1, -1000000, Long.MIN_VALUE}) {
+            CHECK.due("logarithm(" + v + ")", HOUSE.logarithm(v), HouseFunctions.NONE);
+        }
+        for (long v = 1; v <= 100; v++) {
+            compare(v);
+            compare(MOST - v);
+            compare(1000000 + v);
+            compare(1000000 - v);
+            // The ends of the class's own steps: 7/10 and 7/5 of powers of 2.
+            compare(700000 - 50 + v);
+            compare(1400000 - 50 + v);
+        }
+        for (int bit = 0; bit < 40 && 1L << bit <= MOST; bit++) {
+            compare(1L << bit);
+        }
+        Random random = new Random(3);
+        for (int i = 0; i < 600; i++) {
+            compare(1 + (long) (random.nextDouble() * (MOST - 1)));
+            compare((long) Math.exp(random.nextDouble() * 27.6));
+        }
+        CHECK.dueIllegalArgument("logarithm(10^12 + 1)", () -> HOUSE.logarithm(MOST + 1));
+        CHECK.dueIllegalArgument("logarithm(greatest)", () -> HOUSE.logarithm(Long.MAX_VALUE));
+        CHECK.end();
+    }
+
+    private static void compare(long v) {
+        long want = v == 1000000 ? 0 : Reference.floorBillionths(Reference.log(v, 1000000));
+        CHECK.due("logarithm(" + v + ")", HOUSE.logarithm(v), want);
+    }
+}

@@ -1,0 +1,37 @@
+import java.util.Random;
+
+/** Promise 2. */
+final class PowerTest {
+    private static final int MOST = 20000000;
+    private static final Check CHECK = new Check();
+    private static final HouseFunctions HOUSE = new HouseFunctions(1);
+
+    public static void main(String[] args) {
+        CHECK.due("power(0)", HOUSE.power(0), 1000000000L);
+        CHECK.due("power(1000000)", HOUSE.power(1000000), 2718281828L);
+        CHECK.due("power(-1000000)", HOUSE.power(-1000000), 367879441L);
+        CHECK.due("power(20000000)", HOUSE.power(MOST), 485165195409790277L);
+        CHECK.due("power(-20000000)", HOUSE.power(-MOST), 2L);
+        for (int x = -120; x <= 120; x++) {
+            compare(x);
+        }
+        for (int i = 0; i < 50; i++) {
+            compare(MOST - i);
+            compare(i - MOST);
+        }
+        Random random = new Random(2);
+        for (int i = 0; i < 1500; i++) {
+            compare(random.nextInt(2 * MOST + 1) - MOST);
+        }
+        CHECK.dueIllegalArgument("power(20000001)", () -> HOUSE.power(MOST + 1));
+        CHECK.dueIllegalArgument("power(-20000001)", () -> HOUSE.power(-MOST - 1));
+        CHECK.dueIllegalArgument("power(greatest)", () -> HOUSE.power(Integer.MAX_VALUE));
+        CHECK.dueIllegalArgument("power(least)", () -> HOUSE.power(Integer.MIN_VALUE));
+        CHECK.end();
+    }
+
+    private static void compare(int x) {
+        long want = Reference.floorBillionths(Reference.exp(Reference.ratio(x, 1000000)));
+        CHECK.due("power(" + x + ")", HOUSE.power(x), want);
+    }
+}
