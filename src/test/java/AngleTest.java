@@ -3,6 +3,14 @@ import java.util.Random;
 /** Promise 6. */
 final class AngleTest {
     private static final int MOST = 1000000;
+    // A search over all inputs found these answers nearest to a whole number, in one of the
+    // ways around (x or y below 0, or changed about).
+    private static final int[][] HARDEST = {
+        {406572, 820705}, {181048, 321443}, {364159, 561295}, {509013, 691297},
+        {31314, 143467}, {371305, 700049}, {286338, 923921}, {82351, 440484},
+        {503634, 596873}, {282868, 493481}, {300247, 561475}, {213658, 217297},
+        {366134, 600643}, {187632, 922039}, {513467, 513496}, {27925, 833942}
+    };
     private static final Check CHECK = new Check();
     private static final HouseFunctions HOUSE = new HouseFunctions(1);
 
@@ -26,6 +34,10 @@ final class AngleTest {
             for (int x : edges) {
                 compareAround(y, x);
             }
+        }
+        for (int[] pair : HARDEST) {
+            compareAround(pair[0], pair[1]);
+            compareAround(pair[1], pair[0]);
         }
         Random random = new Random(5);
         for (int i = 0; i < 200; i++) {

@@ -5,6 +5,11 @@ final class DampDewTest {
     private static final int LEAST = -4000;
     private static final int MOST = 10000;
     private static final int MOST_PRESSURE = 1000000000;
+    // A search over all inputs found these answers nearest to a whole number.
+    private static final int[][] HARDEST = {
+        {4490, 2865}, {2462, 6247}, {4490, 5730}, {4490, 8595}, {2041, 2852}, {9806, 9316},
+        {4211, 7630}, {6523, 1411}, {-2848, 6781}, {2041, 5704}, {-448, 1269}, {7046, 3858}
+    };
     private static final Check CHECK = new Check();
     private static final HouseFunctions HOUSE = new HouseFunctions(1);
 
@@ -21,6 +26,9 @@ final class DampDewTest {
         CHECK.due("damp(10000, 10000)", HOUSE.damp(MOST, 10000), 104076714);
         for (int share = 0; share <= 10000; share++) {
             CHECK.due("damp(0, " + share + ")", HOUSE.damp(0, share), 610940L * share / 10000);
+        }
+        for (int[] pair : HARDEST) {
+            compare(pair[0], pair[1]);
         }
         Random random = new Random(8);
         for (int i = 0; i < 1500; i++) {

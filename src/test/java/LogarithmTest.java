@@ -3,6 +3,13 @@ import java.util.Random;
 /** Promise 3. */
 final class LogarithmTest {
     private static final long MOST = 1000000000000L;
+    // A search over all inputs found these answers nearest to a whole number.
+    private static final long[] HARDEST = {
+        363961489884L, 102419694992L, 395613678213L, 446578263887L, 54042636780L,
+        387326679110L, 131465885357L, 175861312284L, 976869844890L, 142386816512L,
+        876643557612L, 836717189104L, 491806773724L, 541109154607L, 191534375496L,
+        177477201075L, 546594118902L, 120211339111L, 707488595546L, 227221541892L
+    };
     private static final Check CHECK = new Check();
     private static final HouseFunctions HOUSE = new HouseFunctions(1);
 
@@ -26,6 +33,9 @@ final class LogarithmTest {
         }
         for (int bit = 0; bit < 40 && 1L << bit <= MOST; bit++) {
             compare(1L << bit);
+        }
+        for (long v : HARDEST) {
+            compare(v);
         }
         Random random = new Random(3);
         for (int i = 0; i < 600; i++) {

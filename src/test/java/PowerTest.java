@@ -3,6 +3,11 @@ import java.util.Random;
 /** Promise 2. */
 final class PowerTest {
     private static final int MOST = 20000000;
+    // A search over all inputs found these answers nearest to a whole number.
+    private static final int[] HARDEST = {
+        -15705986, -11296283, 5400178, 13730600, -1778212, -6518919, 5004413, -797859,
+        15046437, 12764495, 1786658, 16516335, -1470250, -17545212, 2201216, -11159245
+    };
     private static final Check CHECK = new Check();
     private static final HouseFunctions HOUSE = new HouseFunctions(1);
 
@@ -18,6 +23,9 @@ final class PowerTest {
         for (int i = 0; i < 50; i++) {
             compare(MOST - i);
             compare(i - MOST);
+        }
+        for (int x : HARDEST) {
+            compare(x);
         }
         Random random = new Random(2);
         for (int i = 0; i < 1500; i++) {

@@ -5,6 +5,11 @@ import java.util.Random;
 /** Promises 4 and 5. */
 final class SineCosineTest {
     private static final int MOST = 100000000;
+    // A search over all inputs found these answers nearest to a whole number.
+    private static final int[] HARDEST = {
+        64670689, 28542978, 95942144, 58639286, 4738240, 73239773, 42682218, 78166531,
+        23857845, 100, 48073283, 63410462, 81681409, 55469118, 89534162, 39873650
+    };
     private static final Check CHECK = new Check();
     private static final HouseFunctions HOUSE = new HouseFunctions(1);
 
@@ -24,6 +29,10 @@ final class SineCosineTest {
             compare(x);
         }
         compareQuarters();
+        for (int x : HARDEST) {
+            compare(x);
+            compare(-x);
+        }
         Random random = new Random(4);
         for (int i = 0; i < 600; i++) {
             compare(random.nextInt(2 * MOST + 1) - MOST);

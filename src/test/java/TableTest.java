@@ -135,8 +135,8 @@ final class TableTest {
         house.table();
         house.row(0, 0, 10);
         house.row(0, 3, 0);
-        CHECK.due("the other has none", house.join(0, 1, 5), HouseFunctions.NONE);
-        CHECK.due("the first has none", house.join(1, 0, 5), HouseFunctions.NONE);
+        CHECK.due("the other has none", house.join(0, 1, 0), HouseFunctions.NONE);
+        CHECK.due("the first has none", house.join(1, 0, 0), HouseFunctions.NONE);
         house.row(1, 0, -10);
         house.row(1, 3, 0);
         // 6 and -7: each is rounded down by itself.
