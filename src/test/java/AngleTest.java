@@ -12,18 +12,17 @@ final class AngleTest {
         {366134, 600643}, {187632, 922039}, {513467, 513496}, {27925, 833942}
     };
     private static final Check CHECK = new Check();
-    private static final HouseFunctions HOUSE = new HouseFunctions(1);
 
     public static void main(String[] args) {
-        CHECK.due("angle(0, 0)", HOUSE.angle(0, 0), HouseFunctions.NONE);
-        CHECK.due("angle(0, 1)", HOUSE.angle(0, 1), 0);
-        CHECK.due("angle(0, 1000000)", HOUSE.angle(0, MOST), 0);
-        CHECK.due("angle(0, -1)", HOUSE.angle(0, -1), 3141592653L);
-        CHECK.due("angle(0, -1000000)", HOUSE.angle(0, -MOST), 3141592653L);
-        CHECK.due("angle(1, 0)", HOUSE.angle(1, 0), 1570796326L);
-        CHECK.due("angle(-1, 0)", HOUSE.angle(-1, 0), -1570796327L);
-        CHECK.due("angle(1, 1)", HOUSE.angle(1, 1), 785398163L);
-        CHECK.due("angle(-1, -1000000)", HOUSE.angle(-1, -MOST), -3141591654L);
+        CHECK.due("angle(0, 0)", NextHouse.get().angle(0, 0), HouseFunctions.NONE);
+        CHECK.due("angle(0, 1)", NextHouse.get().angle(0, 1), 0);
+        CHECK.due("angle(0, 1000000)", NextHouse.get().angle(0, MOST), 0);
+        CHECK.due("angle(0, -1)", NextHouse.get().angle(0, -1), 3141592653L);
+        CHECK.due("angle(0, -1000000)", NextHouse.get().angle(0, -MOST), 3141592653L);
+        CHECK.due("angle(1, 0)", NextHouse.get().angle(1, 0), 1570796326L);
+        CHECK.due("angle(-1, 0)", NextHouse.get().angle(-1, 0), -1570796327L);
+        CHECK.due("angle(1, 1)", NextHouse.get().angle(1, 1), 785398163L);
+        CHECK.due("angle(-1, -1000000)", NextHouse.get().angle(-1, -MOST), -3141591654L);
         for (int y = -9; y <= 9; y++) {
             for (int x = -9; x <= 9; x++) {
                 compare(y, x);
@@ -45,8 +44,8 @@ final class AngleTest {
             compareAround(1 + random.nextInt(1000), 1 + random.nextInt(MOST));
         }
         for (int n : new int[] {MOST + 1, -MOST - 1, Integer.MAX_VALUE, Integer.MIN_VALUE}) {
-            CHECK.dueIllegalArgument("angle(" + n + ", 0)", () -> HOUSE.angle(n, 0));
-            CHECK.dueIllegalArgument("angle(0, " + n + ")", () -> HOUSE.angle(0, n));
+            CHECK.dueIllegalArgument("angle(" + n + ", 0)", () -> NextHouse.get().angle(n, 0));
+            CHECK.dueIllegalArgument("angle(0, " + n + ")", () -> NextHouse.get().angle(0, n));
         }
         CHECK.end();
     }
@@ -63,6 +62,6 @@ final class AngleTest {
             return;
         }
         long want = Reference.floorBillionths(Reference.angle(y, x));
-        CHECK.due("angle(" + y + ", " + x + ")", HOUSE.angle(y, x), want);
+        CHECK.due("angle(" + y + ", " + x + ")", NextHouse.get().angle(y, x), want);
     }
 }

@@ -7,12 +7,35 @@ final class Check {
 
     private int wrong = 0;
     private int asked = 0;
+    private int sentences = 0;
+    private int askedBefore = 0;
+    private String sentence = "";
+
+    /** The words of the document that the answers from here on are due by. */
+    void sentence(String words) {
+        endSentence();
+        sentence = words;
+        sentences++;
+    }
 
     void due(String call, long got, long want) {
         asked++;
         if (got != want) {
-            wrong++;
-            System.out.println(call + " answered " + got + ", due is " + want);
+            tell(call + " answered " + got + ", due is " + want);
+        }
+    }
+
+    void due(String what, String got, String want) {
+        asked++;
+        if (!got.equals(want)) {
+            tell(what + " is " + got + ", due is " + want);
+        }
+    }
+
+    void dueTrue(String what, boolean isSo) {
+        asked++;
+        if (!isSo) {
+            tell("not so: " + what);
         }
     }
 
@@ -35,12 +58,26 @@ final class Check {
             }
             got = "threw " + thrown;
         }
+        tell(name + " " + got + ", due is " + want.getSimpleName());
+    }
+
+    private void tell(String fault) {
         wrong++;
-        System.out.println(name + " " + got + ", due is " + want.getSimpleName());
+        System.out.println(sentence.isEmpty() ? fault : fault + " (" + sentence + ")");
+    }
+
+    // A sentence without an answer would be a test that can't fail.
+    private void endSentence() {
+        if (sentences > 0 && asked == askedBefore) {
+            tell("nothing was asked");
+        }
+        askedBefore = asked;
     }
 
     void end() {
-        System.out.println(asked + " answers, " + wrong + " of them wrong");
+        endSentence();
+        String of = sentences == 0 ? "" : sentences + " sentences, ";
+        System.out.println(of + asked + " answers, " + wrong + " of them wrong");
         if (wrong != 0 || asked == 0) {
             System.exit(1);
         }

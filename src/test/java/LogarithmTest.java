@@ -11,16 +11,15 @@ final class LogarithmTest {
         177477201075L, 546594118902L, 120211339111L, 707488595546L, 227221541892L
     };
     private static final Check CHECK = new Check();
-    private static final HouseFunctions HOUSE = new HouseFunctions(1);
 
     public static void main(String[] args) {
-        CHECK.due("logarithm(1000000)", HOUSE.logarithm(1000000), 0);
-        CHECK.due("logarithm(2000000)", HOUSE.logarithm(2000000), 693147180L);
-        CHECK.due("logarithm(500000)", HOUSE.logarithm(500000), -693147181L);
-        CHECK.due("logarithm(1)", HOUSE.logarithm(1), -13815510558L);
-        CHECK.due("logarithm(10^12)", HOUSE.logarithm(MOST), 13815510557L);
+        CHECK.due("logarithm(1000000)", NextHouse.get().logarithm(1000000), 0);
+        CHECK.due("logarithm(2000000)", NextHouse.get().logarithm(2000000), 693147180L);
+        CHECK.due("logarithm(500000)", NextHouse.get().logarithm(500000), -693147181L);
+        CHECK.due("logarithm(1)", NextHouse.get().logarithm(1), -13815510558L);
+        CHECK.due("logarithm(10^12)", NextHouse.get().logarithm(MOST), 13815510557L);
         for (long v : new long[] {0, -1, -1000000, Long.MIN_VALUE}) {
-            CHECK.due("logarithm(" + v + ")", HOUSE.logarithm(v), HouseFunctions.NONE);
+            CHECK.due("logarithm(" + v + ")", NextHouse.get().logarithm(v), HouseFunctions.NONE);
         }
         for (long v = 1; v <= 100; v++) {
             compare(v);
@@ -42,13 +41,13 @@ final class LogarithmTest {
             compare(1 + (long) (random.nextDouble() * (MOST - 1)));
             compare((long) Math.exp(random.nextDouble() * 27.6));
         }
-        CHECK.dueIllegalArgument("logarithm(10^12 + 1)", () -> HOUSE.logarithm(MOST + 1));
-        CHECK.dueIllegalArgument("logarithm(greatest)", () -> HOUSE.logarithm(Long.MAX_VALUE));
+        CHECK.dueIllegalArgument("logarithm(10^12 + 1)", () -> NextHouse.get().logarithm(MOST + 1));
+        CHECK.dueIllegalArgument("logarithm(greatest)", () -> NextHouse.get().logarithm(Long.MAX_VALUE));
         CHECK.end();
     }
 
     private static void compare(long v) {
         long want = v == 1000000 ? 0 : Reference.floorBillionths(Reference.log(v, 1000000));
-        CHECK.due("logarithm(" + v + ")", HOUSE.logarithm(v), want);
+        CHECK.due("logarithm(" + v + ")", NextHouse.get().logarithm(v), want);
     }
 }

@@ -132,6 +132,36 @@ final class Reference {
                 && BigInteger.valueOf(r + 1).pow(k).compareTo(whole) > 0;
     }
 
+    /** From below, bit by bit: slow, and judged by isFloorOfRoot. */
+    static long floorOfRoot(long v, int k) {
+        long r = 0;
+        for (long step = 1L << 40; step > 0; step >>= 1) {
+            BigInteger whole = BigInteger.valueOf(v).multiply(BigInteger.TEN.pow(9 * k - 6));
+            if (BigInteger.valueOf(r + step).pow(k).compareTo(whole) <= 0) {
+                r += step;
+            }
+        }
+        if (!isFloorOfRoot(r, v, k)) {
+            throw new IllegalStateException("the reference is wrong");
+        }
+        return r;
+    }
+
+    /** By halving between warmths, with the pressures themselves. */
+    static long dew(int pressure) {
+        int low = -4001;
+        int high = 10001;
+        while (high - low > 1) {
+            int middle = Math.floorDiv(low + high, 2);
+            if (damp(middle, 10000) <= pressure) {
+                low = middle;
+            } else {
+                high = middle;
+            }
+        }
+        return low < -4000 ? HouseFunctions.NONE : low;
+    }
+
     static long damp(int warmth, int share) {
         BigDecimal exponent = new BigDecimal("17.625").multiply(BigDecimal.valueOf(warmth))
                 .divide(BigDecimal.valueOf(24304L + warmth), DIGITS);

@@ -11,20 +11,19 @@ final class SineCosineTest {
         23857845, 100, 48073283, 63410462, 81681409, 55469118, 89534162, 39873650
     };
     private static final Check CHECK = new Check();
-    private static final HouseFunctions HOUSE = new HouseFunctions(1);
 
     public static void main(String[] args) {
-        CHECK.due("sine(0)", HOUSE.sine(0), 0);
-        CHECK.due("cosine(0)", HOUSE.cosine(0), 1000000000L);
-        CHECK.due("sine(1)", HOUSE.sine(1), 999);
-        CHECK.due("sine(-1)", HOUSE.sine(-1), -1000);
-        CHECK.due("cosine(1)", HOUSE.cosine(1), 999999999L);
-        CHECK.due("cosine(-1)", HOUSE.cosine(-1), 999999999L);
-        CHECK.due("cosine(3141593)", HOUSE.cosine(3141593), -1000000000L);
-        CHECK.due("sine(100000000)", HOUSE.sine(MOST), -506365642L);
-        CHECK.due("sine(-100000000)", HOUSE.sine(-MOST), 506365641L);
-        CHECK.due("cosine(100000000)", HOUSE.cosine(MOST), 862318872L);
-        CHECK.due("cosine(-100000000)", HOUSE.cosine(-MOST), 862318872L);
+        CHECK.due("sine(0)", NextHouse.get().sine(0), 0);
+        CHECK.due("cosine(0)", NextHouse.get().cosine(0), 1000000000L);
+        CHECK.due("sine(1)", NextHouse.get().sine(1), 999);
+        CHECK.due("sine(-1)", NextHouse.get().sine(-1), -1000);
+        CHECK.due("cosine(1)", NextHouse.get().cosine(1), 999999999L);
+        CHECK.due("cosine(-1)", NextHouse.get().cosine(-1), 999999999L);
+        CHECK.due("cosine(3141593)", NextHouse.get().cosine(3141593), -1000000000L);
+        CHECK.due("sine(100000000)", NextHouse.get().sine(MOST), -506365642L);
+        CHECK.due("sine(-100000000)", NextHouse.get().sine(-MOST), 506365641L);
+        CHECK.due("cosine(100000000)", NextHouse.get().cosine(MOST), 862318872L);
+        CHECK.due("cosine(-100000000)", NextHouse.get().cosine(-MOST), 862318872L);
         for (int x = -60; x <= 60; x++) {
             compare(x);
         }
@@ -38,8 +37,8 @@ final class SineCosineTest {
             compare(random.nextInt(2 * MOST + 1) - MOST);
         }
         for (int x : new int[] {MOST + 1, -MOST - 1, Integer.MAX_VALUE, Integer.MIN_VALUE}) {
-            CHECK.dueIllegalArgument("sine(" + x + ")", () -> HOUSE.sine(x));
-            CHECK.dueIllegalArgument("cosine(" + x + ")", () -> HOUSE.cosine(x));
+            CHECK.dueIllegalArgument("sine(" + x + ")", () -> NextHouse.get().sine(x));
+            CHECK.dueIllegalArgument("cosine(" + x + ")", () -> NextHouse.get().cosine(x));
         }
         CHECK.end();
     }
@@ -58,7 +57,7 @@ final class SineCosineTest {
 
     private static void compare(int x) {
         BigDecimal radians = Reference.ratio(x, 1000000);
-        CHECK.due("sine(" + x + ")", HOUSE.sine(x), Reference.floorBillionths(Reference.sin(radians)));
-        CHECK.due("cosine(" + x + ")", HOUSE.cosine(x), Reference.floorBillionths(Reference.cos(radians)));
+        CHECK.due("sine(" + x + ")", NextHouse.get().sine(x), Reference.floorBillionths(Reference.sin(radians)));
+        CHECK.due("cosine(" + x + ")", NextHouse.get().cosine(x), Reference.floorBillionths(Reference.cos(radians)));
     }
 }
