@@ -187,7 +187,8 @@ final class TableLimitsTest {
         HouseFunctions house = withTables(6);
         for (int row = 0; row < 20; row++) {
             for (int table = 0; table < 6; table++) {
-                CHECK.due("row " + row + " of " + table, house.row(table, row * (table + 1), 100 * table + row), row + 1);
+                CHECK.due("row " + row + " of " + table,
+                        house.row(table, row * (table + 1), 100 * table + row), row + 1);
             }
         }
         for (int row = 0; row < 20; row++) {
